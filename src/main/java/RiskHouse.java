@@ -80,7 +80,9 @@ public final class RiskHouse {
             throw new IllegalStateException("no more cases");
         }
         int c = cases.open(office);
-        startEditions(c);
+        for (int e = 0; e < Editions.ALL; e++) {
+            startIfDue(e, c);
+        }
         int points = runPlainRules(c);
         int path = pathByPoints(points);
         boolean byChance = path == 0 && chances.grantsNext();
@@ -167,21 +169,16 @@ public final class RiskHouse {
         return points < 80 ? 2 : 3;
     }
 
-    private void startEditions(int c) {
-        for (int e = 0; e < Editions.ALL; e++) {
-            if (editions.isDue(e)) {
-                editions.state[e] = runStarts(e, c) ? Editions.STARTED : Editions.BARRED;
-            }
+    private void startIfDue(int e, int c) {
+        if (!editions.isDue(e)) {
+            return;
         }
-    }
-
-    private boolean runStarts(int e, int c) {
-        for (int r = 0; r < rules.size; r++) {
+        editions.state[e] = Editions.STARTED;
+        for (int r = 0; r < rules.size && !editions.isBarred(e); r++) {
             if (rules.edition[r] == e && rules.start[r] && !runRule(r, c)) {
-                return false;
+                editions.state[e] = Editions.BARRED;
             }
         }
-        return true;
     }
 
     private int runPlainRules(int c) {
@@ -352,14 +349,16 @@ public final class RiskHouse {
                 case Code.GO_TO: at = v; break;
                 case Code.IF_ZERO: goIfZero(v); break;
                 case Code.END: at = Rules.MOST_OPERATIONS; break;
+                case Code.DIVIDE: divide(false); break;
+                case Code.REST: divide(true); break;
                 default: join(code); break;
             }
         }
 
         // A step that fails leaves 'at' where it is: that is the operation to tell.
 
-        private boolean holds(int taken) {
-            if (depth < taken) {
+        private boolean canTake(int many) {
+            if (depth < many) {
                 failure = STACK;
                 return false;
             }
@@ -377,7 +376,7 @@ public final class RiskHouse {
         }
 
         private void keep(int edition, int[] cells) {
-            if (holds(1)) {
+            if (canTake(1)) {
                 depth--;
                 cells[edition] = stack[depth];
                 at++;
@@ -385,35 +384,39 @@ public final class RiskHouse {
         }
 
         private void goIfZero(int v) {
-            if (holds(1)) {
+            if (canTake(1)) {
                 depth--;
                 at = stack[depth] == 0 ? v : at + 1;
             }
         }
 
         private void join(int code) {
-            if (!holds(2)) {
-                return;
-            }
-            int second = stack[depth - 1];
-            int first = stack[depth - 2];
-            if (second == 0 && (code == Code.DIVIDE || code == Code.REST)) {
-                failure = BY_ZERO;
+            if (!canTake(2)) {
                 return;
             }
             depth -= 2;
-            put(joined(code, first, second));
+            int first = stack[depth];
+            int second = stack[depth + 1];
+            switch (code) {
+                case Code.ADD: put(first + second); break;
+                case Code.SUBTRACT: put(first - second); break;
+                case Code.MULTIPLY: put(first * second); break;
+                default: put(first < second ? 1 : 0); break;
+            }
         }
 
-        private static int joined(int code, int first, int second) {
-            switch (code) {
-                case Code.ADD: return first + second;
-                case Code.SUBTRACT: return first - second;
-                case Code.MULTIPLY: return first * second;
-                case Code.DIVIDE: return second == 0 ? 0 : first / second;
-                case Code.REST: return second == 0 ? 0 : first % second;
-                default: return first < second ? 1 : 0;
+        private void divide(boolean forRest) {
+            if (!canTake(2)) {
+                return;
             }
+            depth -= 2;
+            int first = stack[depth];
+            int second = stack[depth + 1];
+            if (second == 0) {
+                failure = BY_ZERO;
+                return;
+            }
+            put(forRest ? first % second : first / second);
         }
     }
 

@@ -28,6 +28,7 @@ public final class PromisesTest {
         promise8Limit();
         promise9Decide();
         promise9Order();
+        promise9AllCases();
         promise10Of();
         promise10Chance();
         promise11Failed();
@@ -399,6 +400,8 @@ public final class PromisesTest {
         value("divide towards 0", -3, NUMBER, -7, NUMBER, 2, DIVIDE, 0);
         value("divide by less than 0", -3, NUMBER, 7, NUMBER, -2, DIVIDE, 0);
         value("divide 0", 0, NUMBER, 0, NUMBER, 2, DIVIDE, 0);
+        value("divide by 1", 7, NUMBER, 7, NUMBER, 1, DIVIDE, 0);
+        value("rest by 1", 0, NUMBER, 7, NUMBER, 1, REST, 0);
         value("rest", 1, NUMBER, 7, NUMBER, 2, REST, 0);
         value("rest towards 0", -1, NUMBER, -7, NUMBER, 2, REST, 0);
         value("rest by less than 0", 1, NUMBER, 7, NUMBER, -2, REST, 0);
@@ -415,6 +418,10 @@ public final class PromisesTest {
         value("subtract wraps around", MAX, with(least, NUMBER, 1, SUBTRACT, 0));
         value("add wraps around", MAX, with(least, NUMBER, -1, ADD, 0));
         value("less is exact", 1, with(least, NUMBER, 1, LESS, 0));
+        for (int code : new int[] {ADD, SUBTRACT, MULTIPLY, DIVIDE, REST, LESS}) {
+            value("code " + code + " takes both", 0, NUMBER, 9, NUMBER, 4, code, 0, KEEP, 0);
+            value("code " + code + " leaves what lies below", 3, NUMBER, 3, NUMBER, 9, NUMBER, 4, code, 0, KEEP, 0);
+        }
         value("no operation", 0);
         value("an empty stack at the end", 0, NUMBER, 5, KEEP, 0);
         value("the top of several", 6, NUMBER, 5, NUMBER, 6);
@@ -656,6 +663,20 @@ public final class PromisesTest {
         due("more points", y.of(3, 2), 2);
     }
 
+    private static void promise9AllCases() {
+        RiskHouse x = fieldHouse();
+        for (int c = 0; c < 40; c++) {
+            askWith(x, 2, 51 + c);
+        }
+        x.cap(2, 15);
+        due("decide all 40", x.decide(2), 40);
+        for (int c = 0; c < 40; c++) {
+            due("path of case " + c + " of 40", x.of(c, 2), c < 25 ? 1 : c < 29 ? 2 : 3);
+        }
+        due("all 40 are decided", x.count(4), 40);
+        due("none is left", x.decide(2), 0);
+    }
+
     // ---- promise 10
 
     private static void promise10Of() {
@@ -706,6 +727,14 @@ public final class PromisesTest {
             due("path of case " + c, x.of(c, 2), paths[c]);
         }
         due("still by chance", x.of(4, 3), 1);
+        x.cap(1, 2);
+        x.share(1, 1);
+        x.tape(999);
+        askWith(x, 1, 0);
+        askWith(x, 1, 50);
+        x.decide(1);
+        due("path by chance", x.of(5, 2), 1);
+        due("path by points beside it", x.of(6, 2), 2);
         due("not by chance but by the cap", x.of(3, 3), 0);
     }
 
