@@ -194,7 +194,7 @@ public final class RefusalTest {
             x.cap(o, o);
         }
         x.share(1, 2);
-        for (int v : new int[] {499, 500, 0, 999, 400, 600, 499, 500}) {
+        for (int v : new int[] {499, 500, 0, 999, 600}) {
             x.tape(v);
         }
     }
@@ -209,7 +209,7 @@ public final class RefusalTest {
             x.operation(r, r % 3 == 0 ? KEEP : NUMBER, r % 3 == 0 ? 0 : r);
         }
         settings(x);
-        for (int i = 8; i < 60; i++) {
+        for (int i = 5; i < 60; i++) {
             x.tape(i);
         }
     }
